@@ -47,7 +47,6 @@ public final class SameAfter {
     private final Row work;
     private final Reader reader;
     private final Machine machine;
-    private final Judge judgement;
     private final Proof proof;
     private final Passes passes;
     private final Registers dealing;
@@ -61,7 +60,6 @@ public final class SameAfter {
         work = new Row(WORK_ROOM);
         reader = new Reader();
         machine = new Machine();
-        judgement = new Judge();
         proof = new Proof();
         passes = new Passes();
         dealing = new Registers();
@@ -160,6 +158,7 @@ public final class SameAfter {
         if (one == null || other == null) {
             return NONE;
         }
+        Judge judgement = passes.judgement;
         judgement.compare(one, other, false);
         switch (what) {
             case 0:
@@ -1698,6 +1697,7 @@ public final class SameAfter {
     private static final class Passes {
         private static final int MOST_APPLIED = 50;
 
+        final Judge judgement;
         final Row made;
         final Row kept;
         int bad;
@@ -1707,7 +1707,6 @@ public final class SameAfter {
         private final int[] counts;
         private final Acts acts;
         private final Row trial;
-        private final Judge judgement;
 
         Passes() {
             rules = new Rule[MOST_RULES];

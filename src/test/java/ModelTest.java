@@ -47,16 +47,38 @@ public final class ModelTest {
         int ruleShare = pick(4);
         for (int n = 0; n < ruleShare + pick(6); n++) giveRule();
         for (int n = pick(12); n > 0; n--) giveItem();
+        for (int n = 0; n < 8; n++) giveProgram();
         while (calls < 420 && wrong == 0) {
-            switch (pick(12)) {
+            switch (pick(14)) {
                 case 0 -> giveRule();
                 case 1, 2 -> giveItem();
-                case 3, 4, 5 -> giveProgram();
-                case 6 -> clear();
+                case 3, 4, 5, 6 -> giveProgram();
+                case 7 -> clear();
+                case 8, 9, 10 -> hunt();
                 default -> change();
             }
             look();
         }
+    }
+
+    /** A PROGRAM and a PASS of one ITEM, so that CUT and BLAME often have something to find. */
+    private void hunt() {
+        int s = pick(6);
+        int p = pick(6);
+        int to = near(6);
+        if (pick(3) > 0) {
+            feed(new Texts(random).suspect());
+            same("program(" + s + ")", x.program(s), m.program(s));
+        }
+        if (pick(2) == 0) {
+            same("clear(" + p + ")", of(x.clear(p)), of(m.clear(p)));
+            int v = pick(3) == 0 ? near(12) : 22 + pick(2);
+            same("item(" + p + ", " + v + ")", x.item(p, v), m.item(p, v));
+        }
+        same("blame(" + s + ", 0)", x.blame(s, 0), m.blame(s, 0));
+        same("blame(" + s + ", 1)", x.blame(s, 1), m.blame(s, 1));
+        same("cut(" + p + ", " + s + ", " + to + ")", x.cut(p, s, to), m.cut(p, s, to));
+        if (to >= 0 && to < 6) row(to);
     }
 
     private void clear() {
@@ -99,7 +121,7 @@ public final class ModelTest {
     }
 
     private void giveProgram() {
-        String text = new Texts(random).program();
+        String text = pick(25) == 0 ? new Texts(random).full() : new Texts(random).program();
         if (pick(5) == 0) text = spoil(text);
         if (text.length() > 800) return;
         feed(text);
@@ -198,7 +220,7 @@ public final class ModelTest {
 
         Texts(Random random) {
             this.random = random;
-            vars = 1 + random.nextInt(6);
+            vars = random.nextInt(3) == 0 ? 1 + random.nextInt(6) : 3 + random.nextInt(2);
             small = random.nextInt(4) > 0;
         }
 
@@ -211,6 +233,44 @@ public final class ModelTest {
 
         String program() {
             block(small ? 1 + pick(5) : 1 + pick(14), 0);
+            return b.toString();
+        }
+
+        /** Mostly copies, sets and outs, of up to 13 STATEMENTS. */
+        String suspect() {
+            for (int n = 2 + pick(8); n > 0; n--) {
+                switch (pick(6)) {
+                    case 0, 1 -> say(var() + "=" + var() + ";");
+                    case 2 -> say(var() + "=" + pick(16) + ";");
+                    case 3 -> say("out " + var() + "*" + var() + ";");
+                    case 4 -> say("out " + var() + "+0;");
+                    default -> {
+                        if (pick(2) == 0) statement(2); else say("out " + var() + ";");
+                    }
+                }
+            }
+            return b.toString();
+        }
+
+        /** As near to 40 STATEMENTS, 300 EXPRESSIONS and 8 open ones as 800 bytes go. */
+        String full() {
+            int most = 20 + pick(25);
+            int open = 0;
+            for (int n = 0; n < most && b.length() < 700; n++) {
+                int k = pick(10);
+                if (k == 0 && open < 9) {
+                    say(pick(2) == 0 ? "if a<1{" : "while b>1{");
+                    open++;
+                } else if (k == 1 && open > 0) {
+                    say("}");
+                    open--;
+                } else {
+                    say("c=a");
+                    for (int i = pick(16); i > 0; i--) say(pick(6) == 0 ? "*(b)" : "+1");
+                    say(";");
+                }
+            }
+            for (; open > 0; open--) say("}");
             return b.toString();
         }
 
