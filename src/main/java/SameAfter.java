@@ -155,7 +155,7 @@ public final class SameAfter {
     public int judge(int p, int q, int what) {
         Row one = slotAt(p);
         Row other = slotAt(q);
-        if (one == null || other == null) {
+        if (one == null || other == null || what < 0 || what > 3) {
             return NONE;
         }
         Judge judgement = passes.judgement;
@@ -167,10 +167,8 @@ public final class SameAfter {
                 return judgement.first;
             case 2:
                 return judgement.firstPlace;
-            case 3:
-                return judgement.parted;
             default:
-                return NONE;
+                return judgement.parted;
         }
     }
 
@@ -1921,8 +1919,7 @@ public final class SameAfter {
             int least = comingsOf(present);
             for (int set = 0; set < 1 << VARIABLES; set++) {
                 int cost = comingsOf(set);
-                boolean better = cost < least || cost == least && set < best;
-                if (better && deal(0, present & ~set, k)) {
+                if (cost < least && deal(0, present & ~set, k)) {
                     best = set;
                     least = cost;
                 }

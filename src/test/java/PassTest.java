@@ -98,6 +98,9 @@ public final class PassTest {
         t.makes(23, "c=a;a=1;out c;", "c=a;a=1;out a;");
         t.makes(23, "c=a;c=c+c;out c;", "c=a;c=a+a;out c;");
         t.makes(23, "c=a;c=1;out c;", "c=a;c=1;out c;");
+        t.makes(23, "c=a;out c;c=c+1;out c;", "c=a;out a;c=a+1;out c;");
+        t.makes(23, "c=a;out c;if c<1{c=2;}", "c=a;out a;if c<1{c=2;}");
+        t.makes(23, "c=a;if b<1{out c;}c=c*2;out c;", "c=a;if b<1{out a;}c=a*2;out c;");
         t.makes(23, "c=a;if c<1{out c;}else{d=c*c;}out c;", "c=a;if a<1{out a;}else{d=a*a;}out a;");
         t.makes(23, "c=a;out c;if c<1{c=2;}out c;", "c=a;out a;if c<1{c=2;}out c;");
         t.makes(23, "c=a;if 1<2{if c<1{}else{c=2;}}out c;", "c=a;if 1<2{if c<1{}else{c=2;}}out c;");

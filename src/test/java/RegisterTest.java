@@ -15,6 +15,12 @@ public final class RegisterTest {
         t.x.program(0);
         Talk.due("registers(0, 0) of " + text, t.x.registers(0, 0), fewest);
         for (int v = 0; v < 6; v++) Talk.due("registers(0, " + (10 + v) + ") of " + text, t.x.registers(0, 10 + v), registers[v]);
+        for (int v = 0; v < 6; v++) {
+            Talk alone = new Talk();
+            alone.tape(text);
+            alone.x.program(0);
+            Talk.due("registers(0, " + (10 + v) + ") at once of " + text, alone.x.registers(0, 10 + v), registers[v]);
+        }
     }
 
     private static void dealings() {

@@ -3,6 +3,7 @@ public final class RuleTest {
     public static void main(String[] args) {
         byWords();
         byForms();
+        oneBehindTheOther();
         wrongAsks();
         matches();
         applied();
@@ -46,6 +47,12 @@ public final class RuleTest {
         proved("x*x*x*x*(x*x*x*x)->x*x*x*x*x*x*x*x", 1, -1, -1, 0);
         proved("x+0*y->x", 1, -1, 1, 0);
         proved("x*y*z*x*y*z*x*y*z->x*x*x*y*y*y*z*z*z", 1, -1, 1, 0);
+        proved("x*x+y->y+y", 0, 16, 0, 16 * 16 - roots());
+        proved("y*y+z->z+z", 0, 1, 0, 16 * 16 - roots());
+        proved("y*y*y*y*y*y*y*y->y*y*y*y*y*y*y*y", 1, -1, -1, 0);
+        proved("z*z*z*z*z*z*z->z*z*z*z*z*z*z", 1, -1, 1, 0);
+        proved("z*z*z*z*z*z*z*z->z*z*z*z*z*z*z*z", 1, -1, -1, 0);
+        proved("x*x*x*x*y*y*y*y->y*x*y*x*y*x*y*x", 1, -1, 1, 0);
         // A letter may come 7 times in a product, and more than 7 times in the sum.
         proved("x+x+x+x+x+x+x+x+x->9*x", 1, -1, 1, 0);
         // A product of factor 0 counts too.
@@ -53,6 +60,30 @@ public final class RuleTest {
         proved("0*x*x*x*x*x*x*x*x->0", 1, -1, -1, 0);
         proved("(x-x)*x*x*x*x*x*x*x->0", 1, -1, -1, 0);
         proved("(x-x)*x*x*x*x*x*x->0", 1, -1, 1, 0);
+    }
+
+    /** On how many x, y the square of x is y: one y for each x. */
+    private static int roots() {
+        return 16;
+    }
+
+    private static void oneBehindTheOther() {
+        Talk t = new Talk();
+        t.rule("x->x+1", 0);
+        t.badRule("x+y->y+x+y*16", 2, 11);
+        t.badRule("z*z->z+(x", 2, 8);
+        t.rule("y*2->y+y", 1);
+        t.badRule("x->x)", 1, 4);
+        t.rule("1->2", 2);
+        Talk.due("a WRONG one", t.x.ruleOf(0, 1), 0);
+        Talk.due("a RIGHT one", t.x.ruleOf(1, 1), -1);
+        Talk.due("a RIGHT one", t.x.ruleOf(1, 0), 1);
+        Talk.due("its wrongs", t.x.ruleOf(1, 3), 0);
+        Talk.due("a WRONG one without letters", t.x.ruleOf(2, 3), 1);
+        t.program(0, "out 3*2;out 1;", 2);
+        Talk.due("apply", t.x.apply(1, 0, 0, 0), true);
+        Talk.due("apply", t.x.apply(2, 0, 0, 0), true);
+        t.row(0, 110, 120, 3, 3, 110, 2);
     }
 
     private static void wrongAsks() {

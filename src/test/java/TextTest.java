@@ -7,6 +7,7 @@ public final class TextTest {
         tokens();
         programFaults();
         limits();
+        eightHundredTokens();
         faultsAtOnePlace();
         rules();
         ruleFaults();
@@ -95,6 +96,11 @@ public final class TextTest {
         t.faultIs("no such SLOT", 0, -1);
         t.program(-1, "what?", -1);
         t.faultIs("no such SLOT", 0, -1);
+        t.badProgram("out ;", 1, 4);
+        t.program(6, "out 9;", -1);
+        t.faultIs("no such SLOT", 0, -1);
+        Talk.due("feed (the TAPE was empty)", t.x.feed(0, 0, 0, 0, 0), 20);
+        Talk.due("end(0)", t.x.end(0), true);
         t.program(5, "out 9;", 1);
         t.row(5, 110, 9);
     }
@@ -194,6 +200,17 @@ public final class TextTest {
         t.badProgram("a=1" + Talk.times("+1", 149) + ";if a<1{}", 3, 307);
     }
 
+    /** As many TOKENS as the TAPE has bytes. */
+    private static void eightHundredTokens() {
+        Talk t = new Talk();
+        String part = Talk.times("(", 8) + "1" + Talk.times(")", 8) + "+";
+        t.badProgram("a=" + Talk.times(part, 44) + "((1))+", 1, 800);
+        t.goodProgram("a=" + Talk.times(part, 44) + "((1));", 1);
+        Talk.due("size(0, 1)", t.x.size(0, 1), 89);
+        Talk.due("run", t.x.run(0, 0, 0, 10), 45 & 15);
+        t.badRule(Talk.times(" ", 800), 1, 800);
+    }
+
     private static void faultsAtOnePlace() {
         Talk t = new Talk();
         String full = "a=1" + Talk.times("+1", 149) + ";b=3;";
@@ -224,6 +241,7 @@ public final class TextTest {
         for (int r = 7; r < 12; r++) t.rule("x-" + r + "->x", r);
         t.rule("x->x", -1);
         t.faultIs("the 13th RULE", 0, -1);
+        t.badProgram("out ;", 1, 4);
         t.rule("?", -1);
         t.faultIs("the 13th RULE", 0, -1);
         Talk.due("feed (the TAPE was empty)", t.x.feed(0, 0, 0, 0, 0), 20);
