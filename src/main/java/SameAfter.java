@@ -583,13 +583,17 @@ public final class SameAfter {
                 place = p + 1;
             }
             int c = byteAt(place);
-            if (isSmallLetter(c)) {
+            if (isLetter(c)) {
                 takeLetters();
             } else if (isDigit(c)) {
                 takeDigits();
             } else {
                 takeSign(c, inRule);
             }
+        }
+
+        private static boolean isLetter(int c) {
+            return isSmallLetter(c) || c >= 'A' && c <= 'Z';
         }
 
         private static boolean isSmallLetter(int c) {
@@ -602,12 +606,13 @@ public final class SameAfter {
 
         private void takeLetters() {
             next = place;
-            for (int p = place; p < length && isSmallLetter(byteAt(p)); p++) {
+            for (int p = place; p < length && isLetter(byteAt(p)); p++) {
                 next = p + 1;
             }
             value = byteAt(place) - 'a';
             if (next - place == 1) {
-                kind = LETTER;
+                // A capital alone can stand nowhere, neither as a VARIABLE nor as a RULE's letter.
+                kind = isSmallLetter(byteAt(place)) ? LETTER : NO_TOKEN;
             } else if (isText("out")) {
                 kind = WORD_OUT;
             } else if (isText("fail")) {

@@ -142,8 +142,8 @@ final class Model {
             if (at == t.length()) { tok = "END"; return; }
             char c = t.charAt(at);
             int e = at + 1;
-            if (low(c)) {
-                while (e < t.length() && low(t.charAt(e))) e++;
+            if (abc(c)) {
+                while (e < t.length() && abc(t.charAt(e))) e++;
                 tok = t.substring(at, e);
                 if (tok.length() > 1 && !List.of("out", "fail", "if", "else", "while").contains(tok)) tok = "NOTHING";
             } else if (dig(c)) {
@@ -158,7 +158,7 @@ final class Model {
             at = e;
         }
 
-        static boolean low(char c) { return c >= 'a' && c <= 'z'; }
+        static boolean abc(char c) { return c < 128 && Character.isLetter(c); }
         static boolean dig(char c) { return c >= '0' && c <= '9'; }
 
         boolean is(String s) { return tok.equals(s); }

@@ -105,7 +105,7 @@ public final class ModelTest {
     }
 
     private String spoil(String text) {
-        String signs = ";+-*(){}<=>  \n09155abcdefgxyz\t#outifelsewhilefail->A";
+        String signs = ";+-*(){}<=>  \n09155abcdefgxyz\t#outifelsewhilefail->ABFXZ@[`";
         StringBuilder b = new StringBuilder(text);
         for (int n = 1 + pick(2); n > 0; n--) {
             int at = pick(b.length() + 1);

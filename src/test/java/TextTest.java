@@ -5,6 +5,7 @@ public final class TextTest {
         feedAndEnd();
         programs();
         tokens();
+        capitals();
         programFaults();
         limits();
         eightHundredTokens();
@@ -125,6 +126,49 @@ public final class TextTest {
         t.badProgram("a=b==c;", 1, 3);
         t.badProgram("a=\u00e9;", 1, 2);
         t.goodProgram("a\n=\n1\n;\n", 1);
+    }
+
+    /** Small and capital letters that stand together are one TOKEN; its FAULT is told where it begins. */
+    private static void capitals() {
+        Talk t = new Talk();
+        Talk.due("feed", t.x.feed(1631723552, 0, 0, 0, 0), 20);
+        Talk.due("program(0) of aB and zeros", t.x.program(0), -1);
+        t.faultIs("aB and zeros", 1, 0);
+        t.badProgram("A=1;", 1, 0);
+        t.badProgram("F", 1, 0);
+        t.badProgram("Z=1;", 1, 0);
+        t.badProgram("aA=1;", 1, 0);
+        t.badProgram("Aa=1;", 1, 0);
+        t.badProgram("aZ=1;", 1, 0);
+        t.badProgram("a A=1;", 1, 2);
+        t.badProgram("a@=1;", 1, 1);
+        t.badProgram("a[=1;", 1, 1);
+        t.badProgram("a`=1;", 1, 1);
+        t.badProgram("a|=1;", 1, 1);
+        t.badProgram("a\u00c9=1;", 1, 1);
+        t.badProgram("a=bC;", 1, 2);
+        t.badProgram("a=Cb;", 1, 2);
+        t.badProgram("a=1B;", 1, 3);
+        t.badProgram("a=1;outA 1;", 1, 4);
+        t.badProgram("a=1;OUT 1;", 1, 4);
+        t.badProgram("Out 1;", 1, 0);
+        t.badProgram("out aBc;", 1, 4);
+        t.badProgram("failX;", 1, 0);
+        t.badProgram("fail X;", 1, 5);
+        t.badProgram("fail;X", 1, 5);
+        t.badProgram("ifA<1{}", 1, 0);
+        t.badProgram("if aB<1{}", 1, 3);
+        t.badProgram("if a<1{}elseE{}", 1, 8);
+        t.badProgram("whilE 1<2{}", 1, 0);
+        t.badProgram(Talk.times("fail;", 40) + "aB", 1, 200);
+        t.badProgram("a=1" + Talk.times("+1", 149) + ";b=3;c=cD;", 1, 308);
+        t.badRule("xY->x", 1, 0);
+        t.badRule("X->x", 1, 0);
+        t.badRule("x->xX", 1, 3);
+        t.badRule("x+yZ->x", 1, 2);
+        t.badRule("x+1A->x", 1, 3);
+        t.badRule("x->yA", 1, 3);
+        t.badRule("x" + Talk.times("+1", 19) + "->xX", 1, 41);
     }
 
     private static void programFaults() {
