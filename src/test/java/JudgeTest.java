@@ -49,8 +49,9 @@ public final class JudgeTest {
         Talk t = new Talk();
         t.program(0, "out 3-5;out 7*7;out 9+9;out 0-15;out 15*15;out 8*2;out 10-3-4;out 10-(3-4);out 2+3*4;out (2+3)*4;", 10);
         run(t, 0, 0, 0, 10, 14, 1, 2, 1, 1, 0, 3, 11, 14, 4);
-        t.program(0, "out a-b;out a*b;out a+b;", 3);
         for (int a = 0; a < 16; a++) {
+            t = new Talk();
+            t.program(0, "out a-b;out a*b;out a+b;", 3);
             for (int b = 0; b < 16; b++) run(t, a, b, 0, 3, a - b & 15, a * b & 15, a + b & 15);
         }
         // A row that leans to the left as far as 300 EXPRESSIONS go, and one of the same on the right.

@@ -4,6 +4,9 @@ import java.util.Random;
 
 /** The same calls, chosen by a fixed seed, on SameAfter and on the Model: every answer must be the same. */
 public final class ModelTest {
+    // An object is used for 512 calls; what is begun behind the last look at this takes less than the rest.
+    private static final int MOST_CALLS = 400;
+
     private static int wrong = 0;
     private static long asked = 0;
 
@@ -16,7 +19,7 @@ public final class ModelTest {
     private ModelTest(long seed) { random = new Random(seed); }
 
     public static void main(String[] args) {
-        int objects = args.length > 0 ? Integer.parseInt(args[0]) : 1200;
+        int objects = args.length > 0 ? Integer.parseInt(args[0]) : 2000;
         long base = args.length > 1 ? Long.parseLong(args[1]) : 0;
         for (int n = 0; n < objects && wrong < 5; n++) {
             new ModelTest(base + n).session();
@@ -48,7 +51,7 @@ public final class ModelTest {
         for (int n = 0; n < ruleShare + pick(6); n++) giveRule();
         for (int n = pick(12); n > 0; n--) giveItem();
         for (int n = 0; n < 8; n++) giveProgram();
-        while (calls < 420 && wrong == 0) {
+        while (calls < MOST_CALLS && wrong == 0) {
             switch (pick(14)) {
                 case 0 -> giveRule();
                 case 1, 2 -> giveItem();
@@ -180,8 +183,9 @@ public final class ModelTest {
     private void row(int s) {
         List<Integer> row = new ArrayList<>();
         Model.row(m.slots.get(s), row);
-        if (x.size(s, 2) != row.size()) { same("size(" + s + ", 2)", x.size(s, 2), row.size()); return; }
-        for (int k = 0; k < row.size(); k++) {
+        if (!same("size(" + s + ", 2)", x.size(s, 2), row.size())) return;
+        for (int k = 0; k < row.size() && calls < MOST_CALLS; k++) {
+            calls++;
             if (x.at(s, k) != row.get(k)) { same("at(" + s + ", " + k + ")", x.at(s, k), row.get(k)); return; }
         }
     }

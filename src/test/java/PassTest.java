@@ -72,6 +72,7 @@ public final class PassTest {
         t.makes(21, "while b>0{c=b;b=b-1;}", "while b>0{b=b-1;}");
         t.makes(21, "c=3;while c>0{out d;d=c;c=c-1;}", "c=3;while c>0{out d;d=c;c=c-1;}");
         t.makes(21, "c=3;while c>0{d=c;out d;d=2;c=c-1;}", "c=3;while c>0{d=c;out d;c=c-1;}");
+        t = new Talk();
         t.makes(21, "if a<1{c=1;}else{d=1;}out c;", "if a<1{c=1;}out c;");
         t.makes(21, "c=1;if a<1{c=2;}else{c=3;}out c;", "if a<1{c=2;}else{c=3;}out c;");
         t.makes(21, "while a<1{b=b+1;}", "while a<1{b=b+1;}");
@@ -104,6 +105,7 @@ public final class PassTest {
         t.makes(23, "c=a;if c<1{out c;}else{d=c*c;}out c;", "c=a;if a<1{out a;}else{d=a*a;}out a;");
         t.makes(23, "c=a;out c;if c<1{c=2;}out c;", "c=a;out a;if c<1{c=2;}out c;");
         t.makes(23, "c=a;if 1<2{if c<1{}else{c=2;}}out c;", "c=a;if 1<2{if c<1{}else{c=2;}}out c;");
+        t = new Talk();
         t.makes(23, "c=a;while c>0{out c;}out c;", "c=a;while a>0{out a;}out a;");
         t.makes(23, "c=a;while c>0{c=c-1;}out c;", "c=a;while c>0{c=c-1;}out c;");
         t.makes(23, "c=a;d=c;out d;", "c=a;d=a;out a;");
@@ -112,6 +114,7 @@ public final class PassTest {
         t.makes(23, "c=a+0;out c;", "c=a+0;out c;");
         t.makes(23, "if 1<2{c=a;}out c;", "if 1<2{c=a;}out c;");
         t.makes(23, "if 1<2{c=a;out c;}else{out c;}", "if 1<2{c=a;out a;}else{out c;}");
+        t = new Talk();
         t.makes(23, "while 1<2{c=a;if 3<4{out c;}}out c;", "while 1<2{c=a;if 3<4{out a;}}out c;");
         t.makes(23, "c=a;c=c;out c;", "c=a;c=a;out a;");
         t.makes(23, "a=b;b=c;out a+b;", "a=b;b=c;out c+c;");
