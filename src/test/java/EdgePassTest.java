@@ -224,6 +224,7 @@ public final class EdgePassTest {
         by(FOLD, "out 15+15;out 0-15;out 15*15;", "out 14;out 1;out 1;");
         by(FOLD, "out 7+8;out 8-8;out 3*5;", "out 15;out 0;out 15;");
         by(FOLD, "out 1-2-3;out 1-(2-3);", "out 12;out 2;");
+        by(FOLD, "a=15+1;b=a;", "a=0;b=a;");
         by(FOLD, "if 15+1<1{out 1;}else{out 2;}", "out 1;");
         by(FOLD, "while 0-1<15{out 1;}", "");
     }

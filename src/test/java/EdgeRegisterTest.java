@@ -85,6 +85,9 @@ public final class EdgeRegisterTest {
         clashes("while 0<1{out c;c=1;d=1;out d;}", "cd");
         clashes("while 0<1{d=1;out d;c=1;out c;}", "");
         clashes("while a<1{while b<1{out c;}}", "ab ac bc");
+        // c is read in the next round of the outermost, where d is set in the innermost.
+        clashes("while e<1{out c;c=1;d=1;out d+e;}", "cd ce de");
+        clashes("while e<1{out c;" + Talk.times("while e<1{", 7) + "d=1;out d+e;" + Talk.times("}", 8), "cd ce de");
     }
 
     /** "or one is set by it and the other one LIVE behind it." */
@@ -200,6 +203,12 @@ public final class EdgeRegisterTest {
         Talk.due("registers(0, 13)", t.x.registers(0, 13), 1);
         Talk.due("registers(1, 0)", t.x.registers(1, 0), 0);
         Talk.due("registers(5, 0)", t.x.registers(5, 0), 3);
+        t.program(2, "out a+a+a+b;", 1);
+        t.program(3, "out a+b+b;", 1);
+        for (int n = 0; n < 3; n++) {
+            Talk.due("registers(2, 21)", t.x.registers(2, 21), 2);
+            Talk.due("registers(3, 21)", t.x.registers(3, 21), 1);
+        }
     }
 
     /** "NONE if one can't be, or another what." */

@@ -18,6 +18,7 @@ public final class EdgeRuleTest {
         sevenTimes();
         onTheWay();
         factorZero();
+        formsApart();
         formsAnswers();
         wrongsCounted();
         ruleOfRefused();
@@ -229,6 +230,16 @@ public final class EdgeRuleTest {
         proved("x+y+z->y+z", 0, 256, 0, 15 * 256);
         proved("8*x*y*z->0", 0, 273, 0, 512);
         proved("x*y->x*y*y", 0, 288, 0, pairsUnlike());
+        // NONE if it is RIGHT, though a WRONG one was asked ahead.
+        Talk t = new Talk();
+        t.rule("x->x+1", 0);
+        t.rule("x->x", 1);
+        for (int n = 0; n < 2; n++) {
+            Talk.due("ruleOf(0, 1)", t.x.ruleOf(0, 1), 0);
+            Talk.due("ruleOf(0, 3)", t.x.ruleOf(0, 3), 16);
+            Talk.due("ruleOf(1, 1)", t.x.ruleOf(1, 1), -1);
+            Talk.due("ruleOf(1, 3)", t.x.ruleOf(1, 3), 0);
+        }
         // At x = 0 there is none; at x = 1 the first y.
         proved("x*(y-1)->0", 0, 256, 0, 256 - zeroProducts());
     }
@@ -312,6 +323,31 @@ public final class EdgeRuleTest {
         proved("0*x*x*x*x*x*x*x*x->0", 1, -1, -1, 0);
         proved("0*x*x*x*x*x*x*x->0", 1, -1, 1, 0);
         proved("(y-y)*y*y*y*y*y*y*y->0", 1, -1, -1, 0);
+    }
+
+    private static String power(int m) {
+        char l = (char) ('x' + m / 7);
+        return l + Talk.times("*" + l, m % 7);
+    }
+
+    /** "a sum of products of letters": each letter, as often as it comes, is another product. */
+    private static void formsApart() {
+        for (int m = 0; m < 21; m++) {
+            Talk t = new Talk();
+            for (int n = 0; n < 21; n++) {
+                if (n % 12 == 0) t = new Talk();
+                t.rule(power(m) + "+0*(x*y*z)->" + power(n), n % 12);
+                Talk.due("FORMS of " + power(m) + " and " + power(n), t.x.ruleOf(n % 12, 2), m == n ? 1 : 0);
+            }
+            t.rule(power(m) + "->0", 9);
+            Talk.due("FORMS of " + power(m) + " and 0", t.x.ruleOf(9, 2), 0);
+        }
+        proved("x*y+x*z+y*z->y*x+z*x+z*y", 1, -1, 1, 0);
+        Talk t = new Talk();
+        t.rule("x*y+0*z->x*z", 0);
+        t.rule("x*x*y->x*y*y", 1);
+        t.rule("x*y*z+x*x+y*y->x*y*z+x*x+z*z", 2);
+        for (int r = 0; r < 3; r++) Talk.due("FORMS of RULE " + r, t.x.ruleOf(r, 2), 0);
     }
 
     /** "2 1 if both FORMS are the same, 0 if they are not, NONE if one is none". */

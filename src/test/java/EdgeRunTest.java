@@ -27,7 +27,9 @@ public final class EdgeRunTest {
         judgePlace();
         judgeMany();
         judgeSlots();
+        judgeAgain();
         judgeRefused();
+        deepest();
         lastCall();
         Talk.close("EdgeRunTest");
     }
@@ -357,6 +359,20 @@ public final class EdgeRunTest {
         t.row(5, 110, 21);
     }
 
+    /** "0 RIGHT, 1 WRONG, 2 UNPROVED; 1 the first INPUTS .. (.. NONE), 2 .. (NONE ..)": whatever was JUDGED ahead. */
+    private static void judgeAgain() {
+        Talk t = new Talk();
+        t.program(0, "out 0;out a;", 2);
+        t.program(1, "out 0;out b;", 2);
+        t.program(2, "while 0<1{}", 1);
+        t.program(3, "out 0;", 1);
+        int[][] due = {{0, 1, 1, 1, 1, 240}, {0, 0, 0, -1, -1, 0}, {2, 2, 2, -1, -1, 0}, {3, 3, 0, -1, -1, 0}, {0, 3, 1, 0, -1, 256},
+            {4, 5, 0, -1, -1, 0}, {2, 5, 2, -1, -1, 0}, {5, 5, 0, -1, -1, 0}};
+        for (int what = 0; what < 4; what++) {
+            for (int[] d : due) Talk.due("judge(" + d[0] + ", " + d[1] + ", " + what + ")", t.x.judge(d[0], d[1], what), d[2 + what]);
+        }
+    }
+
     /** "NONE if one can't be, or another what." */
     private static void judgeRefused() {
         Talk t = with("out a;");
@@ -370,6 +386,29 @@ public final class EdgeRunTest {
             }
         }
         Talk.due("judge(0, 1, 0)", t.x.judge(0, 1, 0), 1);
+    }
+
+    /** The deepest PROGRAM that there can be, made by UNROLL: 39 ifs and the while. */
+    private static void deepest() {
+        Talk t = with("while a>0{}");
+        for (int n = 1; n <= 8; n++) t.item(0, 24, n);
+        t.item(1, 24, 1);
+        for (int n = 9; n <= 33; n += 8) Talk.due("make", t.x.make(0, 0, 0), n);
+        for (int n = 34; n <= 40; n++) Talk.due("make", t.x.make(1, 0, 0), n);
+        Talk.due("numbers", t.x.size(0, 2), 239);
+        Talk.due("LIVE", t.x.size(0, 3), 1);
+        Talk.due("at(0, 156)", t.x.at(0, 156), 115);
+        run(t, 0, 0, 0, 1);
+        run(t, 1, 0, 2, 100);
+        Talk.due("judge", t.x.judge(0, 5, 0), 2);
+        Talk.due("registers", t.x.registers(0, 0), 1);
+        t.program(5, "if a>0{while 0<1{}}", 2);
+        Talk.due("judge", t.x.judge(0, 5, 3), 0);
+        t.item(2, 20, 1);
+        t.item(2, 21, 2);
+        t.item(2, 22, 3);
+        t.item(2, 23, 4);
+        Talk.due("make by all others", t.x.make(2, 0, 1), 40);
     }
 
     /** "An object is used for at most 512 calls after it has been made": the last of them answers as the first one. */

@@ -29,6 +29,7 @@ public final class EdgeTextTest {
         firstByte();
         operandByte();
         ruleByte();
+        everyByteBehind();
         firstByPlace();
         leastAtPlace();
         theEnd();
@@ -42,6 +43,7 @@ public final class EdgeTextTest {
         rowElse();
         rowLeft();
         largestRow();
+        mostTokens();
         atEdges();
         sizeCounts();
         sizeRefused();
@@ -267,7 +269,7 @@ public final class EdgeTextTest {
     /** "NONE: .. or a FAULT." It is no RULE, and the next one has its number. */
     private static void ruleFault() {
         Talk t = new Talk();
-        String[] wrong = {"", "x", "x->", "x->y", "x->16", Talk.times("(", 9), "x" + Talk.times("+1", 20)};
+        String[] wrong = {"", "x", "x->", "x->y", "x->16", Talk.times("(", 9), "x" + Talk.times("+1", 20), "x*y*z->x+1)", "y+z->y*(y-z"};
         for (int n = 0; n < wrong.length; n++) {
             t.rule(wrong[n], -1);
             Talk.due("ruleOf(" + n + ", 0)", t.x.ruleOf(n, 0), -2);
@@ -276,6 +278,9 @@ public final class EdgeTextTest {
             t.rule("x+" + n + "->x", n);
         }
         for (int n = 0; n < wrong.length; n++) Talk.due("ruleOf(" + n + ", 0)", t.x.ruleOf(n, 0), n == 0 ? 1 : 0);
+        for (int n = 1; n < wrong.length; n++) Talk.due("ruleOf(" + n + ", 3)", t.x.ruleOf(n, 3), 16);
+        t.badRule("x+y->x)", 1, 6);
+        t.badRule("x->y", 2, 3);
     }
 
     /** "Of the latest program() or rule()". */
@@ -350,6 +355,12 @@ public final class EdgeTextTest {
         t.badProgram("else{}", 1, 0);
         t.badProgram("if 1<2{else{}}", 1, 7);
         t.badProgram("if{}", 1, 2);
+        t.badProgram("if 1{}", 1, 4);
+        t.badProgram("while (1){}", 1, 9);
+        t.badProgram("if 1<2<3{}", 1, 6);
+        t.badProgram("while 1=2=3{}", 1, 9);
+        t.badProgram("if 1<2;{}", 1, 6);
+        t.badProgram("if (1<2){}", 1, 5);
         t.badProgram("if 1<{}", 1, 5);
         t.badProgram("if <2{}", 1, 3);
         t.badProgram("if 1<2", 1, 6);
@@ -378,9 +389,11 @@ public final class EdgeTextTest {
             }
         }
         t = new Talk();
-        String[] none = {"ou", "outt", "fai", "fails", "i", "iff", "els", "elsee", "whil", "whiles", "aa", "ab", "ifa", "outa", "OUT", "oUt"};
+        String[] none = {"ou", "outt", "gut", "fai", "fails", "bail", "i", "iff", "of", "els", "elsee", "alse", "whil", "whiles", "chile", "aa",
+            "ab", "ifa", "outa", "OUT", "oUt", "A", "Z", "aA", "Aa", "aZ", "Za"};
         for (String word : none) t.badProgram("a=1;" + word + " 1;", 1, 4);
         for (String word : none) t.badProgram("out " + word + ";", 1, 4);
+        t = new Talk();
         String[] words = {"out", "fail", "if", "else", "while"};
         for (String word : words) t.badProgram("out " + word + ";", 1, 4);
         for (String word : words) t.badRule("x+" + word + "->x", 1, 2);
@@ -480,6 +493,49 @@ public final class EdgeTextTest {
         t.badRule("x->xx", 1, 3);
         t.badRule("zz", 1, 0);
         t.rule("x+y->1", 0);
+    }
+
+    private static boolean isIn(int c, String signs) {
+        return signs.indexOf(c) >= 0;
+    }
+
+    private static boolean isLetter(int c) {
+        return c >= 'a' && c <= 'z' || c >= 'A' && c <= 'Z';
+    }
+
+    /** A text with each byte in it: those that stand there make it good, those that are passed have the FAULT at the next TOKEN. */
+    private static void everyByte(String ahead, String behind, String stands, String passed, int tokenAhead) {
+        Talk t = new Talk();
+        for (int c = 0; c < 256; c++) {
+            if (c % 64 == 0) t = new Talk();
+            String text = ahead + (char) c + behind;
+            int place = ahead.length();
+            t.tape(text);
+            int n = t.x.program(0);
+            if (isIn(c, stands)) {
+                Talk.due("program of " + text, n >= 0, true);
+                t.faultIs(text, 0, -1);
+            } else {
+                boolean goesOn = tokenAhead < place && isLetter(c);
+                Talk.due("program of " + text, n, -1);
+                t.faultIs(text, 1, isIn(c, passed) ? place + 1 : goesOn ? tokenAhead : place);
+            }
+        }
+    }
+
+    /** "1 what can't stand there": every byte behind each kind of TOKEN. */
+    private static void everyByteBehind() {
+        everyByte("a", "1;", "=", " \n", 0);
+        everyByte("fail", "", ";", " \n", 0);
+        everyByte("out a", "", ";", " \n+-*", 4);
+        everyByte("out (a", ";", ")", " \n+-*", 5);
+        everyByte("if a", "", "", " \n+-*<=>", 3);
+        everyByte("if a<b", "}", "{", " \n+-*", 5);
+        everyByte("if a<b{}else", "}", "{", " \n", 8);
+        everyByte("if a<b{}", "", " \n", "abcdef", 8);
+        everyByte("if a<b{", "", "}", " \nabcdef", 7);
+        everyByte("while a<b{}", "", " \n", "abcdef", 11);
+        everyByte("a=1;", "", " \n", "abcdef", 4);
     }
 
     /** "FAULTS, the first by its place". */
@@ -689,6 +745,8 @@ public final class EdgeTextTest {
         Talk t = new Talk();
         t.goodProgram("out a-b-c;out (a-b)-c;out a-(b-c);", 3);
         t.row(0, 110, 121, 121, 20, 21, 22, 110, 121, 121, 20, 21, 22, 110, 121, 20, 121, 21, 22);
+        t.goodProgram("out a*(b*c);out a*(b+c)*d;", 2);
+        t.row(0, 110, 122, 20, 122, 21, 22, 110, 122, 122, 20, 120, 21, 22, 23);
         t.goodProgram("out a*b*c;out a+b-c+d;", 2);
         t.row(0, 110, 122, 122, 20, 21, 22, 110, 120, 121, 120, 20, 21, 22, 23);
         t.goodProgram("out a-b*c-d;out a*b-c*d;", 2);
@@ -709,6 +767,16 @@ public final class EdgeTextTest {
         Talk.due("make", t.x.make(0, 0, 5), 40);
         Talk.due("numbers", t.x.size(5, 2), 460);
         Talk.due("at(5, 459)", t.x.at(5, 459), 114);
+    }
+
+    /** 800 bytes, and each of them a TOKEN. */
+    private static void mostTokens() {
+        Talk t = new Talk();
+        String part = Talk.times("(", 8) + "1" + Talk.times(")", 8) + "+";
+        t.goodProgram("a=" + Talk.times(part, 44) + "((1));", 1);
+        Talk.due("EXPRESSIONS", t.x.size(0, 1), 89);
+        t.badProgram("a=" + Talk.times(part, 44) + "((1))+", 1, 800);
+        t.badProgram("a=" + Talk.times(part, 44) + "((1))a", 1, 799);
     }
 
     /** "Number k (from 0) of THE ROW of a SLOT's PROGRAM; NONE if there is none such." */
@@ -735,6 +803,8 @@ public final class EdgeTextTest {
         for (int n = 0; n < text.length; n++) {
             t.program(0, text[n], due[n][0]);
             for (int what = 0; what < 4; what++) Talk.due("size(0, " + what + ") of " + text[n], t.x.size(0, what), due[n][what]);
+            // Of an empty PROGRAM nothing is LIVE, whatever was asked ahead.
+            for (int what = 0; what < 4; what++) Talk.due("size(1, " + what + ") behind " + text[n], t.x.size(1, what), 0);
         }
     }
 
