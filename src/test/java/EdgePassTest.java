@@ -663,6 +663,23 @@ public final class EdgePassTest {
         t.item(2, 0, 2);
         t.x.clear(4);
         blamed(t, "out 3-1;", -1, -1);
+        // The given PROGRAM is TIRED ahead of its out; what DEAD makes of it is not, and against that PASS 1 is WRONG.
+        t = new Talk();
+        t.rule("7->8", 0);
+        t.item(0, DEAD, 1);
+        t.item(1, 0, 1);
+        blamed(t, "c=15;while c>0{c=c-1;d=1;d=1;d=1;d=1;d=1;}out 7;", 1, 0);
+        // What PASS 0 makes is TIRED ahead of its out, and against that PASS 1 is not WRONG.
+        t = new Talk();
+        t.rule("0->6", 0);
+        t.rule("6->0", 1);
+        t.rule("7->8", 2);
+        t.item(0, 0, 1);
+        t.item(1, 1, 1);
+        t.item(1, 2, 2);
+        blamed(t, "while 0>5{}out 7;", -1, -1);
+        t.x.clear(0);
+        blamed(t, "while 0>5{}out 7;", 1, 0);
     }
 
     /** "the INPUTS (16 a + b; NONE if it FAILS)". */

@@ -86,6 +86,9 @@ public final class EdgeRuleTest {
         bad("x->->x", 1, 3);
         bad("x->x->x", 1, 4);
         bad("->", 1, 0);
+        String[] others = {"out", "fail", "if", "else", "while", "=", "<", ";", "{", "}", "(", ")"};
+        for (String other : others) bad("x " + other + " x", 1, 2);
+        for (String other : others) bad("x->x " + other, 1, 5);
         bad("(x->x)", 1, 2);
         Talk t = new Talk();
         t.badProgram("if a->b{}", 1, 5);

@@ -281,6 +281,12 @@ public final class EdgeTextTest {
         for (int n = 1; n < wrong.length; n++) Talk.due("ruleOf(" + n + ", 3)", t.x.ruleOf(n, 3), 16);
         t.badRule("x+y->x)", 1, 6);
         t.badRule("x->y", 2, 3);
+        // Of what was read ahead of the FAULT nothing is in the RULE that has the number then.
+        for (int n = 7; n < 9; n++) {
+            t.program(0, "out a+" + n + ";", 1);
+            Talk.due("apply(" + n + ", 0, 0, 1)", t.x.apply(n, 0, 0, 1), true);
+            t.row(1, 110, 20);
+        }
     }
 
     /** "Of the latest program() or rule()". */
@@ -803,9 +809,13 @@ public final class EdgeTextTest {
         for (int n = 0; n < text.length; n++) {
             t.program(0, text[n], due[n][0]);
             for (int what = 0; what < 4; what++) Talk.due("size(0, " + what + ") of " + text[n], t.x.size(0, what), due[n][what]);
-            // Of an empty PROGRAM nothing is LIVE, whatever was asked ahead.
-            for (int what = 0; what < 4; what++) Talk.due("size(1, " + what + ") behind " + text[n], t.x.size(1, what), 0);
         }
+        // Whatever was asked ahead, and be the PROGRAM empty.
+        t.program(0, "out a+b+c+d+e+f;out a+b+c;", 2);
+        t.program(1, "a=1;b=1;", 2);
+        for (int s = 0; s < 3; s++) Talk.due("size(" + s + ", 3) behind another", t.x.size(s, 3), s == 0 ? 63 : 0);
+        Talk.due("size(0, 3) behind another", t.x.size(0, 3), 63);
+        Talk.due("size(2, 3) behind another", t.x.size(2, 3), 0);
     }
 
     /** "NONE if there is none such, or another what." */
