@@ -2,14 +2,20 @@ import java.lang.reflect.Constructor;
 import java.lang.reflect.Field;
 import java.lang.reflect.Method;
 import java.lang.reflect.Modifier;
+import java.io.PrintWriter;
+import java.io.StringWriter;
 import java.nio.file.Files;
 import java.nio.file.Path;
 import java.util.ArrayList;
 import java.util.Arrays;
 import java.util.List;
+import java.util.Map;
+import java.util.Set;
+import java.util.TreeMap;
 import java.util.TreeSet;
 import java.util.regex.Matcher;
 import java.util.regex.Pattern;
+import java.util.spi.ToolProvider;
 
 /** What of ../shared/LANGUAGE.md can be seen without running: the face, the classes inside, words that may not stand. */
 public final class LanguageTest {
@@ -19,6 +25,7 @@ public final class LanguageTest {
         face();
         classesInside();
         text();
+        bytecode();
         System.out.println("LanguageTest: " + wrong + " breaches");
         if (wrong != 0) System.exit(1);
     }
@@ -115,5 +122,71 @@ public final class LanguageTest {
             long lines = code.substring(m.end(), end).lines().count();
             check(lines <= 60, lines + " lines: " + m.group().trim());
         }
+    }
+
+    private static final int DEEPEST = 8;
+    private static final Set<String> LIBRARY = Set.of("java/lang/Object.<init>", "java/lang/Math.max", "java/lang/Math.min",
+        "java/lang/System.arraycopy", "java/lang/String.length", "java/lang/String.charAt");
+    // Its depth is its argument v, of six VARIABLES.
+    private static final String RECURSION = "SameAfter$Registers.deal";
+
+    private static final Pattern CLASS = Pattern.compile("^[a-z ]*class ([\\w$]+).*\\{");
+    private static final Pattern METHOD = Pattern.compile("^  (?:\\S.* )?([\\w$]+)\\(.*\\);");
+    private static final Pattern INVOKE = Pattern.compile("^ +\\d+: invoke\\w+ .*// (?:Interface)?Method (\\S+):");
+    private static final Pattern NEW = Pattern.compile("^ +\\d+: (new|newarray|anewarray|multianewarray) .*");
+
+    /** What each method calls: of the library only what is listed, and calls go at most eight deep. */
+    private static void bytecode() throws Exception {
+        Map<String, Set<String>> calls = new TreeMap<>();
+        String owner = "";
+        String method = "";
+        for (String line : disassembled().split("\n")) {
+            Matcher c = CLASS.matcher(line);
+            Matcher m = METHOD.matcher(line);
+            Matcher i = INVOKE.matcher(line);
+            if (c.find()) {
+                owner = c.group(1);
+            } else if (m.find()) {
+                String name = m.group(1);
+                method = owner + "." + (owner.equals(name) ? "<init>" : name);
+                calls.put(method, new TreeSet<>());
+            } else if (i.find()) {
+                String called = i.group(1).replace("\"", "");
+                calls.get(method).add(called.contains(".") ? called : owner + "." + called);
+            } else if (NEW.matcher(line).find()) {
+                check(method.endsWith("<init>"), "made outside a constructor: " + method);
+            }
+        }
+        check(calls.size() > 100, "methods seen: " + calls.size());
+        for (String from : calls.keySet()) {
+            check(deepest(calls, from, new ArrayList<>()) <= DEEPEST, "calls go too deep from " + from);
+        }
+    }
+
+    private static String disassembled() throws Exception {
+        Path here = Path.of(SameAfter.class.getProtectionDomain().getCodeSource().getLocation().toURI());
+        List<String> args = new ArrayList<>(List.of("-c", "-p", here.resolve("SameAfter.class").toString()));
+        for (Class<?> c : SameAfter.class.getDeclaredClasses()) args.add(here.resolve(c.getName() + ".class").toString());
+        StringWriter out = new StringWriter();
+        PrintWriter writer = new PrintWriter(out);
+        ToolProvider.findFirst("javap").orElseThrow().run(writer, writer, args.toArray(new String[0]));
+        writer.flush();
+        return out.toString();
+    }
+
+    private static int deepest(Map<String, Set<String>> calls, String method, List<String> open) {
+        int below = 0;
+        open.add(method);
+        for (String next : calls.getOrDefault(method, Set.of())) {
+            if (!next.startsWith("SameAfter")) {
+                check(LIBRARY.contains(next), method + " calls " + next);
+            } else if (open.contains(next)) {
+                check(next.equals(RECURSION) && next.equals(method), method + " calls itself by " + next);
+            } else {
+                below = Math.max(below, deepest(calls, next, open));
+            }
+        }
+        open.remove(open.size() - 1);
+        return below + 1;
     }
 }
